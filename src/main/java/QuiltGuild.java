@@ -425,7 +425,7 @@ public final class QuiltGuild {
         int check() {
             openCount = 0;
             whole = NONE;
-            for (int i = 0; i < length; i++) {
+            for (int i = 0; i < length && i < MOST_CHARACTERS; i++) {
                 int error = read(i);
                 if (error != NONE) {
                     return error;
@@ -559,8 +559,10 @@ public final class QuiltGuild {
         }
 
         private void setSize(int block, int width, int height) {
-            Rows.put(widths, block, width);
-            Rows.put(heights, block, height);
+            if (block >= 0 && block < widths.length && block < heights.length) {
+                widths[block] = width;
+                heights[block] = height;
+            }
         }
 
         /** Goes down to the letter of the patch; each step leads to a later character, so the text bounds them. */
@@ -1025,7 +1027,7 @@ public final class QuiltGuild {
 
         int raffleOff(Frame frame, int price) {
             int patches = frame.patches();
-            for (int m = 0; m < memberCount; m++) {
+            for (int m = 0; m < MOST_MEMBERS; m++) {
                 Member member = memberAt(m);
                 if (member != null) {
                     member.pence += frame.shareOf(m, price);
@@ -1051,10 +1053,10 @@ public final class QuiltGuild {
 
         private void giveBackColour(Cloth cloth, int c) {
             int left = cloth.stock;
-            for (int m = 0; m < memberCount; m++) {
+            for (int m = 0; m < MOST_MEMBERS; m++) {
                 Member member = memberAt(m);
                 if (member != null && cloth.given > 0) {
-                    // Both can exceed 50000 within 512 calls, and their product the greatest int.
+                    // Both can come near 50000 within 512 calls: their product can be greater than the greatest int.
                     int part = (int) ((long) cloth.stock * Rows.at(member.given, c) / cloth.given);
                     member.returned += part;
                     cloth.returned += part;
