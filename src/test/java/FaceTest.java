@@ -53,7 +53,7 @@ public final class FaceTest {
         CHECKS.holds("a public constructor", Modifier.isPublic(constructors[0].getModifiers()));
         CHECKS.eq("its parameters", constructors[0].getParameterCount(), 0);
         CHECKS.holds("a public final class",
-            (QuiltGuild.class.getModifiers() & (Modifier.PUBLIC | Modifier.FINAL)) == (Modifier.PUBLIC | Modifier.FINAL));
+            QuiltGuild.class.getModifiers() == (Modifier.PUBLIC | Modifier.FINAL));
     }
 
     private static String told(Method method) {
@@ -82,7 +82,8 @@ public final class FaceTest {
             CHECKS.holds(method + " bears a name of its own", !isPrivate || !publicNames.contains(method.getName()));
         }
         for (Field field : QuiltGuild.class.getDeclaredFields()) {
-            CHECKS.holds(field + " is private", Modifier.isPrivate(field.getModifiers()) != field.getName().equals("NONE"));
+            boolean isPrivate = Modifier.isPrivate(field.getModifiers());
+            CHECKS.holds(field + " is private", isPrivate != field.getName().equals("NONE"));
         }
     }
 

@@ -191,7 +191,8 @@ public final class ModelTest {
             case 1: ask("member " + m + " " + what, () -> guild.member(m, what), () -> model.member(m, what)); break;
             case 2: ask("cloth " + c + " " + what, () -> guild.cloth(c, what), () -> model.cloth(c, what)); break;
             case 3: ask("frame " + f + " " + what, () -> guild.frame(f, what), () -> model.frame(f, what)); break;
-            case 4: ask("patch " + f + " " + x + " " + y, () -> guild.patch(f, x, y), () -> model.patch(f, x, y)); break;
+            case 4: ask("patch " + f + " " + x + " " + y, () -> guild.patch(f, x, y),
+                () -> model.patch(f, x, y)); break;
             case 5: ask("count " + f + " " + c + " " + sewn, () -> guild.count(f, c, sewn),
                 () -> model.count(f, c, sewn)); break;
             case 6: {

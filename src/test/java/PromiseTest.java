@@ -34,6 +34,7 @@ public final class PromiseTest {
         promise19ReturnCloth();
         promise19GreatNumbers();
         promise20Undo();
+        promise20Raffles();
         promise20WhatIsRemembered();
         promise21Lacks();
         promise22CanFinish();
@@ -268,8 +269,10 @@ public final class PromiseTest {
         error("2".repeat(59) + "a", 54);
         error("(".repeat(30) + "a" + ")".repeat(29), 60);
         QuiltGuild x = new QuiltGuild();
-        eq("59 turns start", startWith(x, 0, "^".repeat(57) + "2a"), 2);
-        eq("it lies", x.frame(0, 1), 2);
+        eq("57 turns start", startWith(x, 0, "^".repeat(57) + "2f"), 2);
+        eq("they stand", x.frame(0, 1), 2);
+        eq("59 turns start", startWith(x, 1, "^".repeat(59) + "f"), 1);
+        eq("the last letter is found", x.patch(1, 0, 0), 5);
     }
 
     // ---- what there is
@@ -389,6 +392,9 @@ public final class PromiseTest {
         eq("seams", x.frame(2, 4), 3);
         eq("pieces", x.frame(2, 5), 3);
         eq("greatest", x.frame(2, 6), 4);
+        startWith(x, 0, "(abb)");
+        eq("a colour of the first patch alone", x.frame(0, 3), 2);
+        x.takeApart(0);
         x.give(0, 0, 1);
         x.sew(2, 5);
         eq("sewn 1", x.frame(2, 2), 1);
@@ -424,6 +430,22 @@ public final class PromiseTest {
         startWith(y, 1, "[(aba)(aba)(aaa)(bab)]");
         eq("a piece that goes up again", y.frame(1, 5), 4);
         eq("its patches", y.frame(1, 6), 8);
+        startWith(y, 2, "[(bba)(baa)(abb)]");
+        eq("a piece that goes left", y.frame(2, 5), 4);
+        eq("its three patches", y.frame(2, 6), 3);
+        y.takeApart(2);
+        startWith(y, 2, "[(bbba)(baaa)(babb)(aabb)]");
+        eq("a piece that only goes left and down", y.frame(2, 5), 3);
+        eq("its seven patches", y.frame(2, 6), 7);
+        y.takeApart(2);
+        startWith(y, 2, "[(abbb)(abab)(abab)(aaab)]");
+        eq("a piece that goes up two patches", y.frame(2, 5), 2);
+        eq("its patches on both sides", y.frame(2, 6), 8);
+        y.takeApart(2);
+        startWith(y, 2, "[(abb)(aba)(aaa)]");
+        eq("a piece that goes up one patch", y.frame(2, 5), 2);
+        eq("its patches with the last one", y.frame(2, 6), 6);
+        y.takeApart(2);
         startWith(y, 2, "[(ab)(ba)]");
         eq("corners do not hang together", y.frame(2, 5), 4);
     }
@@ -592,6 +614,10 @@ public final class PromiseTest {
         CHECKS.holds("exchanged", shown(x, 0).equals("bbac"));
         CHECKS.holds("the other frame stays", shown(x, 1).equals("aabc"));
         eq("a colour and itself", x.recolour(0, 1, 1), 0);
+        eq("with the first patch", x.recolour(0, 5, 1), 2);
+        x.undo();
+        eq("with the first patch, the other way", x.recolour(0, 1, 5), 2);
+        x.undo();
         eq("one that is not there", x.recolour(0, 5, 2), 1);
         CHECKS.holds("exchanged again", shown(x, 0).equals("bbaf"));
         eq("two that are not there", x.recolour(0, 3, 4), 0);
@@ -801,6 +827,31 @@ public final class PromiseTest {
         x.undo();
         CHECKS.state("all are taken back", x::undo);
         eq("no members", x.about(0), 0);
+    }
+
+    private static void promise20Raffles() {
+        QuiltGuild x = with(3);
+        x.give(0, 0, 9);
+        startWith(x, 0, "3a");
+        x.sew(0, 1);
+        x.sew(0, 2);
+        String finished = all(x);
+        x.raffle(0, 90);
+        String raffled = all(x);
+        x.returnCloth();
+        eq("returnCloth is remembered", x.undo(), 8);
+        CHECKS.holds("the stock is back", all(x).equals(raffled));
+        eq("raffle is remembered", x.undo(), 7);
+        CHECKS.holds("the quilt is back", all(x).equals(finished));
+        eq("patches raffled", x.about(4), 0);
+        eq("pence", x.about(5), 0);
+        eq("what 0 sewed of it is back", x.wouldGet(0, 0, 90), 30);
+        eq("what 1 sewed of it is back", x.wouldGet(0, 1, 90), 60);
+        x.undo();
+        eq("the one of the next member is not", x.sew(0, 1), 1);
+        x.sew(0, 1);
+        eq("one by one", x.wouldGet(0, 1, 90), 30);
+        eq("the third one too", x.wouldGet(0, 2, 90), 30);
     }
 
     private static void promise20WhatIsRemembered() {
@@ -1045,6 +1096,9 @@ public final class PromiseTest {
                 eq("simulate for 1 " + seed + " " + m, evening(1).simulate(seed, m), simulated(evening(1), seed, m));
             }
         }
+        for (long seed = 0; seed < 40; seed++) {
+            eq("simulate without cloth " + seed, scarce().simulate(seed, 60), simulated(scarce(), seed, 60));
+        }
         QuiltGuild y = evening(3);
         String before = all(y);
         eq("known evenings", y.simulate(0, 99), simulated(evening(3), 0, 99));
@@ -1059,6 +1113,15 @@ public final class PromiseTest {
         startWith(x, 0, "28^8a");
         startWith(x, 1, "5a");
         startWith(x, 2, "(ab)");
+        return x;
+    }
+
+    /** All cloth that is sewn was given in the evenings themselves, and each colour is needed. */
+    private static QuiltGuild scarce() {
+        QuiltGuild x = with(2);
+        startWith(x, 0, "[(abcdef)(fedcba)]");
+        startWith(x, 1, "28^28a");
+        startWith(x, 2, "28^28b");
         return x;
     }
 
