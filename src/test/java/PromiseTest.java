@@ -1,10 +1,5 @@
 /** For each promise of ../shared/DOC.md: ordinary inputs, the edges that it names, and wrong inputs in their order. */
-public final class PromiseTest {
-    private static final Checks CHECKS = new Checks();
-    private static final int NONE = -9;
-    private static final int MIN = Integer.MIN_VALUE;
-    private static final int MAX = Integer.MAX_VALUE;
-
+public final class PromiseTest extends Guilds {
     public static void main(String[] args) {
         promise1NewObject();
         promise2Append();
@@ -48,82 +43,6 @@ public final class PromiseTest {
         promise26Evenings();
         promise27And28SaveAndRestore();
         CHECKS.close("PromiseTest");
-    }
-
-    // ---- helpers
-
-    private static void eq(String what, long got, long due) {
-        CHECKS.eq(what, got, due);
-    }
-
-    private static void type(QuiltGuild x, String text) {
-        x.clearText();
-        for (int i = 0; i < text.length(); i++) {
-            x.append(text.charAt(i));
-        }
-    }
-
-    private static int errorOf(String text) {
-        QuiltGuild x = new QuiltGuild();
-        type(x, text);
-        return x.errorPosition();
-    }
-
-    private static void error(String text, int due) {
-        eq("errorPosition of " + text, errorOf(text), due);
-    }
-
-    private static QuiltGuild with(int members) {
-        QuiltGuild x = new QuiltGuild();
-        for (int i = 0; i < members; i++) {
-            x.addMember();
-        }
-        return x;
-    }
-
-    private static int startWith(QuiltGuild x, int f, String text) {
-        type(x, text);
-        return x.start(f);
-    }
-
-    /** The patches of a frame as letters, the rows parted by slashes. */
-    private static String shown(QuiltGuild x, int f) {
-        StringBuilder shown = new StringBuilder();
-        for (int y = 0; y < x.frame(f, 1); y++) {
-            shown.append(y == 0 ? "" : "/");
-            for (int column = 0; column < x.frame(f, 0); column++) {
-                shown.append((char) ('a' + x.patch(f, column, y)));
-            }
-        }
-        return shown.toString();
-    }
-
-    private static void layout(String text, String due) {
-        QuiltGuild x = new QuiltGuild();
-        startWith(x, 0, text);
-        CHECKS.holds(text + " is " + shown(x, 0) + ", due is " + due, shown(x, 0).equals(due));
-    }
-
-    /** All that can be asked of the state, so that two states can be compared. */
-    static String all(QuiltGuild x) {
-        StringBuilder all = new StringBuilder();
-        for (int what = 0; what <= 8; what++) {
-            all.append(x.about(what)).append(' ');
-        }
-        for (int m = 0; m < x.about(0); m++) {
-            for (int what = 0; what <= 3; what++) {
-                all.append(x.member(m, what)).append(' ');
-            }
-        }
-        for (int c = 0; c < 6; c++) {
-            for (int what = 0; what <= 4; what++) {
-                all.append(x.cloth(c, what)).append(' ');
-            }
-        }
-        for (int f = 0; f < 3; f++) {
-            all.append(x.frame(f, 2)).append(' ').append(shown(x, f)).append(' ');
-        }
-        return all.toString();
     }
 
     // ---- text
@@ -1100,7 +1019,7 @@ public final class PromiseTest {
             eq("simulate without cloth " + seed, scarce().simulate(seed, 60), simulated(scarce(), seed, 60));
         }
         QuiltGuild y = evening(3);
-        String before = all(y);
+        String before = all(evening(3));
         eq("known evenings", y.simulate(0, 99), simulated(evening(3), 0, 99));
         CHECKS.holds("only a copy is changed", all(y).equals(before));
         eq("undo knows nothing of it", y.undo(), 7);
